@@ -86,6 +86,19 @@ public final class StatutesTest {
         dueFault("foo !", 0, 2);
         dueFault("tire ! ;", 5, 1);
         dueFault("tire \u00e9;", 5, 1);
+        dueFault("keep 1 21;", 7, 3);
+        dueFault("keep 2 21;", 7, 3);
+        dueFault("xire 2;", 0, 2);
+        dueFault("tirx 2;", 0, 2);
+        dueFault("tireA 2;", 0, 1);
+        dueFault("tireZ 2;", 0, 1);
+        dueFault("tire@", 4, 1);
+        dueFault("tire[", 4, 1);
+        String all = "tire 9;rest 0;hunger 0;keep 1 0;keep 2 20;keep 3 20;";
+        dueFault(all + ";", all.length(), 2);
+        dueFault(all + "!", all.length(), 1);
+        dueFault(all + "rest 1;", all.length(), 4);
+        dueFault(all + "keep", all.length() + 4, 2);
     }
 
     private static void faultyOnesStay() {

@@ -12,6 +12,8 @@ public final class LeadingBoundsTest {
         eachToOneStation();
         theLeastOfTwoHorses();
         theLeastOfAllTogether();
+        manyLeadElsewhere();
+        eachCallByItself();
         horsesAtStationsAlone();
         theMostPains();
         theTapeIsEmptyThen();
@@ -196,6 +198,39 @@ public final class LeadingBoundsTest {
             Check.due("5 alone", Check.leading(post, wants(5, 1)), last);
             Check.due("1 and 5", Check.leading(post, wants(1, 1, 5, 1)), 2 + last);
         }
+    }
+
+    /** The same sentence: of the horses of 0, fewer than 5 wants, as many, and more, are wanted nearby, too */
+    private static void manyLeadElsewhere() {
+        for (int near = 1; near <= 4; near++) {
+            for (int far = 0; far <= 6; far++) {
+                YamRiders post = new YamRiders();
+                post.road(0, 1, 1);
+                post.road(1, 2, 2);
+                post.road(0, 5, 10);
+                horses(post, 0, near);
+                horses(post, 2, 10);
+                int pains = near - 2 * Math.min(near, far) + 13 * far;
+                Check.due(near + " and " + far, Check.leading(post, wants(1, near, 5, far)), pains);
+            }
+        }
+    }
+
+    /** "may be led": no horse is; what one call would lead is no matter to the next one */
+    private static void eachCallByItself() {
+        YamRiders post = new YamRiders();
+        post.road(0, 1, 5);
+        post.road(1, 2, 5);
+        horses(post, 0, 3);
+        for (int i = 0; i < 3; i++) {
+            Check.due("to 2", Check.leading(post, wants(2, 3)), 30);
+            Check.due("to 1", Check.leading(post, wants(1, 2)), 10);
+            Check.due("too many", Check.leading(post, wants(1, 4)), -2);
+            Check.due("stay", Check.leading(post, wants(0, 3)), 0);
+        }
+        horses(post, 2, 1);
+        Check.due("from 2", Check.leading(post, wants(1, 1, 0, 3)), 5);
+        Check.due("there", post.at(0, 1), 3);
     }
 
     /** "those at STATIONS": not while on a road; again from the hour in which they come, with a rider or alone */

@@ -108,6 +108,12 @@ public final class TextBoundsTest {
         fault("tiree", 0, 2);
         fault("TIRE 2;", 0, 1);
         fault("ire 2;", 0, 2);
+        for (String word : new String[] {"tire", "rest", "hunger", "keep"}) {
+            for (int i = 0; i < word.length(); i++) {
+                fault(word.substring(0, i) + "x" + word.substring(i + 1) + " 1 1;", 0, 2);
+                fault(word.substring(0, i) + word.substring(i + 1) + " 1 1;", 0, 2);
+            }
+        }
     }
 
     /** "NUMBERS (1 to 3 digits)": the signs beside 0 and 9 are none. */
@@ -289,6 +295,16 @@ public final class TextBoundsTest {
         fault("tire 1;rest 1;hunger 1;rest 1;", 23, 4);
         fault("tire 1;rest 1;hunger 1;hunger 1;", 23, 4);
         fault("tire 1;\n tire 2;", 9, 4);
+        String all = "tire 9;rest 50;hunger 50;keep 1 20;keep 2 20;keep 3 20;";
+        good(all, 6);
+        good(all + "\n", 6);
+        fault(all + "tire 1;", all.length(), 4);
+        fault(all + "rest 1;", all.length(), 4);
+        fault(all + "hunger 1;", all.length(), 4);
+        fault(all + "keep 3 1;", all.length() + 5, 4);
+        fault(all + "keep 4 1;", all.length() + 5, 3);
+        fault(all + ";", all.length(), 2);
+        fault(all + "!", all.length(), 1);
         YamRiders post = new YamRiders();
         for (int i = 0; i < 3; i++) {
             Check.due("once in each text", Check.statutes(post, "tire 1;"), 1);

@@ -671,7 +671,7 @@ public final class YamRiders {
 
         /** Capitals go on a word, too: such a word is not as told, and so no token as a whole. */
         private static boolean isLetterOrDigit(int sign) {
-            return isSmallLetter(sign) || isDigit(sign) || sign >= 'A' && sign <= 'Z';
+            return sign >= 'a' && sign <= 'z' || sign >= 'A' && sign <= 'Z' || sign >= '0' && sign <= '9';
         }
     }
 

@@ -1,8 +1,13 @@
+import java.util.ArrayList;
+import java.util.Collections;
+import java.util.List;
 import java.util.NoSuchElementException;
 import java.util.Random;
 
 /** Long runs at random, in which every answer is compared with the model's; and wild numbers everywhere. */
 public final class SoakTest {
+    private static final String[] RULES = {"tire", "rest", "hunger", "keep 1", "keep 2", "keep 3"};
+
     public static void main(String[] args) {
         for (int seed = 0; seed < 400; seed++) {
             livelyRun(seed);
@@ -41,18 +46,38 @@ public final class SoakTest {
         Check.due("road", bit(post.road(u, v, hours)), bit(model.road(u, v, hours)));
     }
 
+    /** Some rules are left out, in any order of the others; a text with a fault leaves the statutes as they are. */
     private static void livelyStatutes(Random random, YamRiders post, Model model) {
-        model.tire = 1 + random.nextInt(random.nextInt(4) == 0 ? 9 : 3);
-        model.rest = random.nextInt(51);
-        model.hunger = random.nextInt(random.nextInt(4) == 0 ? 51 : 3);
+        int[] told = {2, 3, 1, 0, 0, 0};
+        List<Integer> rules = new ArrayList<>(List.of(0, 1, 2, 3, 4, 5));
+        Collections.shuffle(rules, random);
+        int count = random.nextBoolean() ? 6 : random.nextInt(7);
         StringBuilder text = new StringBuilder();
-        text.append("tire ").append(model.tire).append(";rest ").append(model.rest);
-        text.append(";hunger ").append(model.hunger).append(';');
-        for (int rank = 1; rank <= 3; rank++) {
-            model.keep[rank] = random.nextInt(random.nextInt(4) == 0 ? 21 : 2);
-            text.append("keep ").append(rank).append(' ').append(model.keep[rank]).append(";\n");
+        for (int rule : rules.subList(0, count)) {
+            told[rule] = livelyNumber(random, rule);
+            text.append(RULES[rule]).append(' ').append(told[rule]).append(random.nextBoolean() ? ";" : " ;\n");
         }
-        Check.due("statutes", Check.statutes(post, text.toString()), 6);
+        if (random.nextInt(5) == 0) {
+            int place = text.length();
+            text.append(random.nextBoolean() ? "tires 1;" : "=");
+            Check.due("statutes", Check.statutes(post, text.toString()), -1 - place);
+            return;
+        }
+        Check.due("statutes", Check.statutes(post, text.toString()), count);
+        model.tire = told[0];
+        model.rest = told[1];
+        model.hunger = told[2];
+        System.arraycopy(told, 3, model.keep, 1, 3);
+    }
+
+    private static int livelyNumber(Random random, int rule) {
+        boolean isHigh = random.nextInt(4) == 0;
+        return switch (rule) {
+            case 0 -> 1 + random.nextInt(isHigh ? 9 : 3);
+            case 1 -> random.nextInt(51);
+            case 2 -> random.nextInt(isHigh ? 51 : 3);
+            default -> random.nextInt(isHigh ? 21 : 2);
+        };
     }
 
     private static void livelyCall(Random random, YamRiders post, Model model, int stations, int longest) {

@@ -59,11 +59,14 @@ public final class SoakTest {
         }
         if (random.nextInt(5) == 0) {
             int place = text.length();
-            text.append(random.nextBoolean() ? "tires 1;" : "=");
+            boolean isToken = random.nextBoolean();
+            text.append(isToken ? "tires 1;" : "=");
             Check.due("statutes", Check.statutes(post, text.toString()), -1 - place);
+            Check.due("fault", post.fault(), isToken ? 2 : 1);
             return;
         }
         Check.due("statutes", Check.statutes(post, text.toString()), count);
+        Check.due("fault", post.fault(), 0);
         model.tire = told[0];
         model.rest = told[1];
         model.hunger = told[2];
